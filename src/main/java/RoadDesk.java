@@ -6,8 +6,8 @@
 public final class RoadDesk {
     public static final int BAD = -1, NONE = -2;
 
-    private static final int EDGES = 16, SPOTS = 2 * EDGES, JUNCTIONS = 8, CARS = 32, TYPES = 4;
-    private static final int PHASES = 4, ALL_EDGES = 65535;
+    private static final int EDGES = 16, SPOTS = 32, WAYS = 256, JUNCTIONS = 8, CARS = 32, TYPES = 4;
+    private static final int PHASES = 4, PHASE_SLOTS = 32, ALL_EDGES = 65535, TOTALS = 7;
     private static final int OFF = 0, WAITING = 1, ON = 2;
     /** A GAP that holds no car back: what stands for the one to nothing at all. */
     private static final int FAR = 1000;
@@ -27,15 +27,15 @@ public final class RoadDesk {
     private final int[] spotMask = new int[SPOTS];
 
     /** For edge e and GOAL g at EDGES * e + g; made anew by whatever changes them. */
-    private final int[] wayDistance = new int[EDGES * EDGES];
-    private final int[] wayNext = new int[EDGES * EDGES];
+    private final int[] wayDistance = new int[WAYS];
+    private final int[] wayNext = new int[WAYS];
 
     private final int[] phaseCount = new int[JUNCTIONS];
     private final int[] phaseAtHand = new int[JUNCTIONS];
     private final int[] phaseAge = new int[JUNCTIONS];
     /** For junction j and phase k at PHASES * j + k. */
-    private final int[] phaseEdges = new int[JUNCTIONS * PHASES];
-    private final int[] phaseTimes = new int[JUNCTIONS * PHASES];
+    private final int[] phaseEdges = new int[PHASE_SLOTS];
+    private final int[] phaseTimes = new int[PHASE_SLOTS];
 
     private final int[] typeTop = new int[TYPES];
     private final int[] typeAccel = new int[TYPES];
@@ -63,7 +63,7 @@ public final class RoadDesk {
     private final int[] carChanged = new int[CARS];
     private final int[] carNextSpeed = new int[CARS];
 
-    private final int[] totals = new int[7];
+    private final int[] totals = new int[TOTALS];
     private int nextTicket = 0;
 
     public RoadDesk() {
@@ -301,7 +301,7 @@ public final class RoadDesk {
     }
 
     public int total(int what) {
-        return what < 0 || what > TRAVEL ? BAD : totals[what];
+        return what < 0 || what >= TOTALS ? BAD : totals[what];
     }
 
     // ---- edges and ways
@@ -321,6 +321,10 @@ public final class RoadDesk {
 
     private boolean leads(int spot, int f) {
         return f >= 0 && edgeLanes[f] > 0 && edgeFrom[f] == edgeTo[spot / 2] && (spotMask[spot] >> f & 1) == 1;
+    }
+
+    private boolean edgeLeads(int e, int f) {
+        return leads(2 * e, f) || edgeLanes[e] == 2 && leads(2 * e + 1, f);
     }
 
     private void findWays() {
@@ -356,8 +360,7 @@ public final class RoadDesk {
         int least = NONE;
         for (int f = 0; f < EDGES; f++) {
             int onward = wayDistance[EDGES * f + goal];
-            boolean led = edgeOpen[f] && (leads(2 * e, f) || edgeLanes[e] == 2 && leads(2 * e + 1, f));
-            if (led && onward != NONE) {
+            if (onward != NONE && edgeOpen[f] && edgeLeads(e, f)) {
                 int sum = costOf(f) + onward;
                 if (best == NONE || sum < least) {
                     best = f;
