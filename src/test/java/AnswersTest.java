@@ -17,18 +17,6 @@ public final class AnswersTest {
         due.end();
     }
 
-    private static int shape(int lanes, int limit, int rank) {
-        return lanes + 4 * limit + 64 * rank;
-    }
-
-    private static RoadDesk line(int first, int second, int third) {
-        RoadDesk x = new RoadDesk();
-        x.edge(0, 1, first, shape(2, 12, 0));
-        x.edge(1, 10, second, shape(2, 12, 0));
-        x.edge(2, 19, third, shape(2, 12, 0));
-        return x;
-    }
-
     private static void all(String when, RoadDesk x, int c, int... want) {
         for (int what = 0; what < 8; what++) {
             due.is(when + ": of(" + c + ", " + what + ")", x.of(c, what), want[what]);
@@ -36,7 +24,7 @@ public final class AnswersTest {
     }
 
     private static void ofEachState() {
-        RoadDesk x = line(25, 60, 60);
+        RoadDesk x = Roads.line(2, 25, 60, 60);
         x.connect(0, 0, 0);
         all("NONE", x, 3, 0, -2, -2, -2, -2, -2, -2, -2);
         x.car(3, 0, 0, 2);
@@ -57,7 +45,7 @@ public final class AnswersTest {
     }
 
     private static void ofWrongOnes() {
-        RoadDesk x = line(25, 60, 60);
+        RoadDesk x = Roads.line(2, 25, 60, 60);
         x.car(0, 0, 0, 0);
         int[] cars = {-1, 32, MIN, MAX};
         for (int c : cars) {
@@ -77,8 +65,8 @@ public final class AnswersTest {
     }
 
     private static void laneFromTheGreatestFront() {
-        RoadDesk x = line(100, 60, 60);
-        x.phase(1, 0, 0, 9999);
+        RoadDesk x = Roads.line(2, 100, 60, 60);
+        x.phase(1, 0, 0, Roads.LONG);
         x.connect(0, 1, 0);
         int[] order = {9, 2, 30};
         for (int c : order) {
@@ -91,26 +79,26 @@ public final class AnswersTest {
         }
         due.is("no fourth", x.lane(0, 0, 3), -2);
         due.is("none on lane 1", x.lane(0, 1, 0), -2);
-        int[][] bad = {{0, 0, -1}, {0, 0, 32}, {0, 0, MIN}, {0, 0, MAX}, {0, -1, 0}, {0, 2, 0}, {0, MIN, 0}, {0, MAX, 0},
-            {-1, 0, 0}, {16, 0, 0}, {3, 0, 0}, {MIN, 0, 0}, {MAX, 0, 0}};
+        int[][] bad = {{0, 0, -1}, {0, 0, 32}, {0, 0, MIN}, {0, 0, MAX}, {0, -1, 0}, {0, 2, 0}, {0, MIN, 0},
+            {0, MAX, 0}, {-1, 0, 0}, {16, 0, 0}, {3, 0, 0}, {MIN, 0, 0}, {MAX, 0, 0}};
         for (int[] b : bad) {
             due.is("lane " + b[0] + " " + b[1] + " " + b[2], x.lane(b[0], b[1], b[2]), -2);
         }
         x.remove(2);
         due.is("one less", x.lane(0, 0, 1), 30);
-        x.edge(4, 1, 20, shape(1, 1, 0));
+        x.edge(4, 1, 20, Roads.shape(1, 1, 0));
         due.is("lane 1 of one", x.lane(4, 1, 0), -2);
     }
 
     private static void roadOfEachKind() {
-        RoadDesk x = line(25, 61, 60);
+        RoadDesk x = Roads.line(2, 25, 61, 60);
         int[] first = {0, 0, 6, 1, 0, 1};
         for (int what = 0; what < 6; what++) {
             due.is("at first: road(1, " + what + ")", x.road(1, what), first[what]);
         }
         x.weight(1, 9);
         x.weight(1, -1);
-        x.phase(2, 0, 65535 - 2, 9999);
+        x.phase(2, 0, 65535 - 2, Roads.LONG);
         x.car(0, 0, 1, 1);
         x.car(1, 0, 1, 1);
         int[] closed = {0, 2, 15, 0, 0, 0};
@@ -118,7 +106,7 @@ public final class AnswersTest {
             due.is("CLOSED: road(1, " + what + ")", x.road(1, what), closed[what]);
         }
         x.weight(1, 2);
-        x.phase(2, 0, 2, 9999);
+        x.phase(2, 0, 2, Roads.LONG);
         x.run(1);
         int[] open = {1, 1, 8, 1, 1, 1};
         for (int what = 0; what < 6; what++) {
@@ -143,7 +131,7 @@ public final class AnswersTest {
     }
 
     private static void junctionOfEachKind() {
-        RoadDesk x = line(40, 60, 60);
+        RoadDesk x = Roads.line(2, 40, 60, 60);
         x.connect(0, 0, 0);
         x.phase(1, 0, 1, 302);
         x.phase(1, 1, 65535, 9901);
@@ -178,11 +166,11 @@ public final class AnswersTest {
     private static void wayByLeastCost() {
         // from edge 0 to edge 3 by edge 1, cost 20, or by edges 4 and 5, cost 7 each
         RoadDesk x = new RoadDesk();
-        x.edge(0, 1, 50, shape(1, 10, 0));
-        x.edge(1, 10, 200, shape(1, 10, 0));
-        x.edge(3, 19, 50, shape(1, 10, 0));
-        x.edge(4, 12, 70, shape(1, 10, 0));
-        x.edge(5, 34, 70, shape(1, 10, 0));
+        x.edge(0, 1, 50, Roads.shape(1, 10, 0));
+        x.edge(1, 10, 200, Roads.shape(1, 10, 0));
+        x.edge(3, 19, 50, Roads.shape(1, 10, 0));
+        x.edge(4, 12, 70, Roads.shape(1, 10, 0));
+        x.edge(5, 34, 70, Roads.shape(1, 10, 0));
         due.is("DISTANCE", x.way(0, 3, 0), 19);
         due.is("NEXT", x.way(0, 3, 1), 4);
         x.weight(5, 7);
@@ -205,12 +193,12 @@ public final class AnswersTest {
 
     private static void wayByLeastEdge() {
         RoadDesk x = new RoadDesk();
-        x.edge(9, 1, 50, shape(2, 10, 0));
-        x.edge(7, 10, 50, shape(1, 10, 0));
-        x.edge(2, 11, 50, shape(1, 10, 0));
-        x.edge(5, 20, 50, shape(1, 10, 0));
-        x.edge(8, 28, 50, shape(1, 10, 0));
-        x.edge(1, 37, 50, shape(1, 10, 0));
+        x.edge(9, 1, 50, Roads.shape(2, 10, 0));
+        x.edge(7, 10, 50, Roads.shape(1, 10, 0));
+        x.edge(2, 11, 50, Roads.shape(1, 10, 0));
+        x.edge(5, 20, 50, Roads.shape(1, 10, 0));
+        x.edge(8, 28, 50, Roads.shape(1, 10, 0));
+        x.edge(1, 37, 50, Roads.shape(1, 10, 0));
         due.is("DISTANCE", x.way(9, 1, 0), 15);
         due.is("the lesser of 2 and 7", x.way(9, 1, 1), 2);
         x.connect(9, 0, 128);
@@ -223,11 +211,11 @@ public final class AnswersTest {
         // fifteen edges to and fro between junctions 0 .. 7 and 7 .. 0, numbered against the way, and one more
         RoadDesk x = new RoadDesk();
         for (int i = 0; i < 7; i++) {
-            x.edge(15 - i, 8 * i + i + 1, 200, shape(1, 1, 0));
+            x.edge(15 - i, 8 * i + i + 1, 200, Roads.shape(1, 1, 0));
             x.weight(15 - i, 1000);
         }
         for (int i = 0; i < 7; i++) {
-            x.edge(8 - i, 8 * (7 - i) + 6 - i, 200, shape(1, 1, 0));
+            x.edge(8 - i, 8 * (7 - i) + 6 - i, 200, Roads.shape(1, 1, 0));
             x.weight(8 - i, 1000);
         }
         for (int e = 15; e > 1; e--) {
@@ -241,7 +229,7 @@ public final class AnswersTest {
     }
 
     private static void wayWrongOnes() {
-        RoadDesk x = line(50, 50, 50);
+        RoadDesk x = Roads.line(2, 50, 50, 50);
         int[] bad = {-1, 3, 16, MIN, MAX};
         for (int b : bad) {
             due.is("from " + b, x.way(b, 0, 0), -1);
@@ -261,7 +249,7 @@ public final class AnswersTest {
     }
 
     private static void totalOfEachKind() {
-        RoadDesk x = line(25, 60, 60);
+        RoadDesk x = Roads.line(2, 25, 60, 60);
         x.connect(0, 0, 0);
         x.car(0, 0, 0, 1);
         x.run(1);

@@ -16,21 +16,8 @@ public final class CarTest {
         due.end();
     }
 
-    private static int shape(int lanes, int limit, int rank) {
-        return lanes + 4 * limit + 64 * rank;
-    }
-
-    /** Edges 0, 1, 2 behind one another from junction 0 to 3, with one lane and limit 12. */
-    private static RoadDesk line(int first, int second, int third) {
-        RoadDesk x = new RoadDesk();
-        x.edge(0, 1, first, shape(1, 12, 0));
-        x.edge(1, 10, second, shape(1, 12, 0));
-        x.edge(2, 19, third, shape(1, 12, 0));
-        return x;
-    }
-
     private static void carTakesItsNumbers() {
-        RoadDesk x = line(50, 50, 50);
+        RoadDesk x = Roads.line(1, 50, 50, 50);
         int[][] bad = {{-1, 0, 0, 0}, {32, 0, 0, 0}, {MIN, 0, 0, 0}, {MAX, 0, 0, 0}, {0, -1, 0, 0}, {0, 4, 0, 0},
             {0, MIN, 0, 0}, {0, MAX, 0, 0}, {0, 0, -1, 0}, {0, 0, 3, 0}, {0, 0, 16, 0}, {0, 0, MIN, 0}, {0, 0, MAX, 0},
             {0, 0, 0, -1}, {0, 0, 0, 3}, {0, 0, 0, 16}, {0, 0, 0, MIN}, {0, 0, 0, MAX}};
@@ -58,7 +45,7 @@ public final class CarTest {
     }
 
     private static void carsWaitInTheirOrder() {
-        RoadDesk x = line(100, 50, 50);
+        RoadDesk x = Roads.line(1, 100, 50, 50);
         x.type(1, 12, 3, 4);
         int[] order = {7, 3, 20};
         for (int c : order) {
@@ -96,7 +83,7 @@ public final class CarTest {
                 speeds[c][i] = v;
             }
             for (int again = 0; again < 2; again++) {
-                RoadDesk x = line(200, 50, 50);
+                RoadDesk x = Roads.line(1, 200, 50, 50);
                 x.type(1, 3, 1, 54);
                 x.run(again * 5);
                 x.car(c, 1, 0, 0);
@@ -113,7 +100,7 @@ public final class CarTest {
     }
 
     private static void aimTakesItsNumbers() {
-        RoadDesk x = line(50, 50, 50);
+        RoadDesk x = Roads.line(1, 50, 50, 50);
         due.no("car NONE", x.aim(0, 1));
         x.car(0, 0, 0, 2);
         int[][] bad = {{-1, 0}, {32, 0}, {MIN, 0}, {MAX, 0}, {1, 0}, {0, -1}, {0, 3}, {0, 16}, {0, MIN}, {0, MAX}};
@@ -132,26 +119,26 @@ public final class CarTest {
 
     private static void aimNeedsRoomToStop() {
         // FRONT 4, 5, 7, 10, 14, 19, 25, 31, .. with SPEED 0, 1, 2, 3, 4, 5, 6, 6, ..; D(6) is 6
-        RoadDesk far = line(31, 50, 50);
+        RoadDesk far = Roads.line(1, 31, 50, 50);
         far.car(0, 0, 0, 0);
         far.run(7);
         due.at("6 up to the END", far, 0, 0, 0, 25, 6);
         due.yes("just room enough", far.aim(0, 2));
         due.yes("back", far.aim(0, 0));
-        RoadDesk near = line(30, 50, 50);
+        RoadDesk near = Roads.line(1, 30, 50, 50);
         near.car(0, 0, 0, 0);
         near.run(7);
         due.at("5 up to the END", near, 0, 0, 0, 25, 6);
         due.no("too near", near.aim(0, 2));
         due.is("too near: GOAL stays", near.of(0, 6), 0);
         due.yes("the same edge", near.aim(0, 0));
-        RoadDesk waits = line(30, 50, 50);
+        RoadDesk waits = Roads.line(1, 30, 50, 50);
         waits.car(0, 0, 0, 0);
         due.yes("one WAITING needs none", waits.aim(0, 1));
     }
 
     private static void aimNotOfGrantedOnes() {
-        RoadDesk x = line(30, 50, 50);
+        RoadDesk x = Roads.line(1, 30, 50, 50);
         x.car(0, 0, 0, 2);
         x.run(2);
         due.is("GRANTED", x.of(0, 5), 1);
@@ -164,7 +151,7 @@ public final class CarTest {
     }
 
     private static void aimOfWaitingOnes() {
-        RoadDesk x = line(50, 50, 50);
+        RoadDesk x = Roads.line(1, 50, 50, 50);
         x.car(0, 0, 1, 0);
         x.car(1, 0, 1, 1);
         x.run(3);
@@ -177,7 +164,7 @@ public final class CarTest {
     }
 
     private static void removeTakesCarsOff() {
-        RoadDesk x = line(50, 50, 50);
+        RoadDesk x = Roads.line(1, 50, 50, 50);
         int[] bad = {-1, 32, 0, 31, MIN, MAX};
         for (int c : bad) {
             due.no("remove " + c, x.remove(c));
@@ -204,7 +191,7 @@ public final class CarTest {
     }
 
     private static void removeSetsJunctionsFree() {
-        RoadDesk x = line(22, 50, 50);
+        RoadDesk x = Roads.line(1, 22, 50, 50);
         x.car(0, 0, 0, 2);
         x.run(2);
         due.is("HELD", x.junction(1, 2), 1);

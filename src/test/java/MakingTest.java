@@ -18,15 +18,11 @@ public final class MakingTest {
         due.end();
     }
 
-    static int shape(int lanes, int limit, int rank) {
-        return lanes + 4 * limit + 64 * rank;
-    }
-
     private static void aNewObject() {
         due.is("BAD", RoadDesk.BAD, -1);
         due.is("NONE", RoadDesk.NONE, -2);
         RoadDesk other = new RoadDesk();
-        other.edge(0, 1, 20, shape(1, 1, 0));
+        other.edge(0, 1, 20, Roads.shape(1, 1, 0));
         other.phase(1, 0, 1, 101);
         other.car(0, 0, 0, 0);
         other.run(3);
@@ -55,13 +51,13 @@ public final class MakingTest {
 
     private static void edgeTakesItsNumbers() {
         RoadDesk x = new RoadDesk();
-        due.yes("least length and limit", x.edge(0, 1, 20, shape(1, 1, 0)));
+        due.yes("least length and limit", x.edge(0, 1, 20, Roads.shape(1, 1, 0)));
         due.is("cost 20 over 1", x.road(0, 2), 20);
-        due.yes("greatest numbers", x.edge(15, 62, 200, shape(2, 12, 3)));
+        due.yes("greatest numbers", x.edge(15, 62, 200, Roads.shape(2, 12, 3)));
         due.is("cost 200 over 12", x.road(15, 2), 17);
-        due.yes("edge 1", x.edge(1, 8, 20, shape(2, 12, 0)));
+        due.yes("edge 1", x.edge(1, 8, 20, Roads.shape(2, 12, 0)));
         due.is("cost 20 over 12", x.road(1, 2), 2);
-        due.yes("edge 2", x.edge(2, 8, 24, shape(2, 12, 0)));
+        due.yes("edge 2", x.edge(2, 8, 24, Roads.shape(2, 12, 0)));
         due.is("cost 24 over 12", x.road(2, 2), 2);
         due.is("at first OPEN", x.road(1, 5), 1);
         due.yes("lane 1 of two", x.connect(1, 1, 0));
@@ -69,15 +65,15 @@ public final class MakingTest {
     }
 
     private static void edgeRefusesOthers() {
-        int good = shape(1, 5, 0);
+        int good = Roads.shape(1, 5, 0);
         int[][] bad = {
             {-1, 1, 50, good}, {16, 1, 50, good}, {MIN, 1, 50, good}, {MAX, 1, 50, good},
             {0, -1, 50, good}, {0, 64, 50, good}, {0, 0, 50, good}, {0, 9, 50, good}, {0, 63, 50, good},
             {0, MIN, 50, good}, {0, MAX, 50, good}, {0, -7, 50, good},
             {0, 1, 19, good}, {0, 1, 201, good}, {0, 1, MIN, good}, {0, 1, MAX, good},
-            {0, 1, 50, shape(0, 5, 0)}, {0, 1, 50, shape(3, 5, 0)}, {0, 1, 50, shape(1, 0, 0)},
-            {0, 1, 50, shape(1, 13, 0)}, {0, 1, 50, shape(1, 15, 3)}, {0, 1, 50, shape(1, 5, 4)},
-            {0, 1, 50, shape(1, 5, -1)}, {0, 1, 50, -1}, {0, 1, 50, MIN}, {0, 1, 50, MAX}, {0, 1, 50, 0},
+            {0, 1, 50, Roads.shape(0, 5, 0)}, {0, 1, 50, Roads.shape(3, 5, 0)}, {0, 1, 50, Roads.shape(1, 0, 0)},
+            {0, 1, 50, Roads.shape(1, 13, 0)}, {0, 1, 50, Roads.shape(1, 15, 3)}, {0, 1, 50, Roads.shape(1, 5, 4)},
+            {0, 1, 50, Roads.shape(1, 5, -1)}, {0, 1, 50, -1}, {0, 1, 50, MIN}, {0, 1, 50, MAX}, {0, 1, 50, 0},
         };
         RoadDesk x = new RoadDesk();
         for (int[] b : bad) {
@@ -99,8 +95,8 @@ public final class MakingTest {
 
     private static void edgeIsMadeAnew() {
         RoadDesk x = new RoadDesk();
-        x.edge(0, 1, 20, shape(2, 10, 0));
-        x.edge(1, 10, 20, shape(1, 10, 0));
+        x.edge(0, 1, 20, Roads.shape(2, 10, 0));
+        x.edge(1, 10, 20, Roads.shape(1, 10, 0));
         x.connect(0, 0, 0);
         x.connect(0, 1, 0);
         x.weight(0, 7);
@@ -112,7 +108,7 @@ public final class MakingTest {
         x.remove(0);
         x.weight(0, -1);
         due.is("no way", x.way(0, 1, 0), -2);
-        due.yes("anew", x.edge(0, 1, 30, shape(2, 10, 0)));
+        due.yes("anew", x.edge(0, 1, 30, Roads.shape(2, 10, 0)));
         due.is("anew: way", x.way(0, 1, 0), 2);
         due.is("anew: WEIGHT 0", x.road(0, 2), 3);
         due.is("anew: came ON", x.road(0, 4), 0);
@@ -120,7 +116,7 @@ public final class MakingTest {
         x.connect(0, 0, 0);
         due.is("anew: lane 1 leads, too", x.way(0, 1, 0), 2);
         x.connect(1, 0, 0);
-        due.yes("anew elsewhere", x.edge(1, 19, 20, shape(1, 10, 0)));
+        due.yes("anew elsewhere", x.edge(1, 19, 20, Roads.shape(1, 10, 0)));
         due.is("edge 1 does not begin there any more", x.way(0, 1, 0), -2);
         due.is("total stays", x.total(1), 1);
     }
@@ -128,8 +124,8 @@ public final class MakingTest {
     private static void connectTakesItsNumbers() {
         RoadDesk x = new RoadDesk();
         due.no("no edge", x.connect(0, 0, 1));
-        x.edge(0, 1, 50, shape(1, 5, 0));
-        x.edge(3, 1, 50, shape(2, 5, 0));
+        x.edge(0, 1, 50, Roads.shape(1, 5, 0));
+        x.edge(3, 1, 50, Roads.shape(2, 5, 0));
         due.yes("least mask", x.connect(0, 0, 0));
         due.yes("greatest mask", x.connect(0, 0, 65535));
         due.yes("lane 1", x.connect(3, 1, 65535));
@@ -142,10 +138,10 @@ public final class MakingTest {
 
     private static void connectChangesWays() {
         RoadDesk x = new RoadDesk();
-        x.edge(0, 1, 50, shape(2, 5, 0));
-        x.edge(1, 10, 50, shape(1, 5, 0));
-        x.edge(2, 11, 50, shape(1, 5, 0));
-        x.edge(3, 25, 50, shape(1, 5, 0));
+        x.edge(0, 1, 50, Roads.shape(2, 5, 0));
+        x.edge(1, 10, 50, Roads.shape(1, 5, 0));
+        x.edge(2, 11, 50, Roads.shape(1, 5, 0));
+        x.edge(3, 25, 50, Roads.shape(1, 5, 0));
         due.is("at first all", x.way(0, 2, 0), 10);
         x.connect(0, 0, 2);
         due.is("lane 1 still leads to edge 2", x.way(0, 2, 0), 10);
@@ -161,8 +157,8 @@ public final class MakingTest {
     private static void weightTakesItsNumbers() {
         RoadDesk x = new RoadDesk();
         due.no("no edge", x.weight(0, 1));
-        x.edge(0, 1, 50, shape(1, 5, 0));
-        x.edge(1, 10, 50, shape(1, 5, 0));
+        x.edge(0, 1, 50, Roads.shape(1, 5, 0));
+        x.edge(1, 10, 50, Roads.shape(1, 5, 0));
         due.yes("greatest", x.weight(1, 1000));
         due.is("cost", x.road(1, 2), 1010);
         due.is("distance", x.way(0, 1, 0), 1010);
@@ -258,7 +254,7 @@ public final class MakingTest {
 
     private static void typeTakesItsNumbers() {
         RoadDesk x = new RoadDesk();
-        x.edge(0, 1, 100, shape(1, 12, 0));
+        x.edge(0, 1, 100, Roads.shape(1, 12, 0));
         int[][] bad = {{-1, 6, 1, 4}, {4, 6, 1, 4}, {MIN, 6, 1, 4}, {MAX, 6, 1, 4}, {0, 0, 1, 4}, {0, 13, 1, 4},
             {0, MIN, 1, 4}, {0, MAX, 1, 4}, {0, 6, 0, 4}, {0, 6, 4, 4}, {0, 6, MIN, 4}, {0, 6, MAX, 4}, {0, 6, 1, 2},
             {0, 6, 1, 9}, {0, 6, 1, 10}, {0, 6, 1, 99}, {0, 6, 1, 103}, {0, 6, 1, 108}, {0, 6, 1, -5}, {0, 6, 1, -1},
@@ -287,7 +283,7 @@ public final class MakingTest {
     private static void typeIsAtFirst() {
         for (int t = 0; t < 4; t++) {
             RoadDesk x = new RoadDesk();
-            x.edge(0, 1, 100, shape(1, 12, 0));
+            x.edge(0, 1, 100, Roads.shape(1, 12, 0));
             x.car(0, t, 0, 0);
             x.run(1);
             int front = 4;

@@ -12,19 +12,8 @@ public final class OrderTest {
         due.end();
     }
 
-    private static int shape(int lanes, int limit, int rank) {
-        return lanes + 4 * limit + 64 * rank;
-    }
-
-    /** Edge 0 of LENGTH 20 with two lanes, 0 to edge 1 and 1 to edge 2. */
     private static void carAddedAnewMayChangeLanes(boolean arrives) {
-        RoadDesk x = new RoadDesk();
-        x.edge(0, 1, 20, shape(2, 12, 0));
-        x.edge(1, 10, 50, shape(1, 12, 0));
-        x.edge(2, 11, 50, shape(1, 12, 0));
-        x.connect(0, 0, 2);
-        x.connect(0, 1, 4);
-        x.phase(1, 0, 0, 9999);
+        RoadDesk x = Roads.fork(20);
         x.type(1, 12, 3, 8);
         x.car(0, 1, 0, 1);
         x.run(1);
@@ -50,8 +39,8 @@ public final class OrderTest {
 
     private static void totalOfStepsIsTogether() {
         RoadDesk x = new RoadDesk();
-        x.edge(0, 1, 20, shape(1, 12, 0));
-        x.edge(1, 8, 40, shape(1, 12, 0));
+        x.edge(0, 1, 20, Roads.shape(1, 12, 0));
+        x.edge(1, 8, 40, Roads.shape(1, 12, 0));
         x.run(13);
         // FRONT 4, 5, 7, 10, 14, 19, 25: ON in step 14, beyond 20 in step 20; beyond 40 (4 .. 37, 43) three steps later
         x.car(0, 0, 0, 0);
@@ -73,15 +62,9 @@ public final class OrderTest {
     }
 
     private static void wantsByItsOwnTop() {
-        // the one AHEAD has SPEED 1, and TOP 1 or 6 (as it has just come ON)
+        // the one AHEAD has SPEED 1 and TOP 1: its own TOP would let none change
         for (int top = 1; top <= 2; top++) {
-            RoadDesk x = new RoadDesk();
-            x.edge(0, 1, 200, shape(2, 12, 0));
-            x.type(1, 1, 1, 3);
-            x.type(2, top, 1, 4);
-            x.car(0, 1, 0, 0);
-            x.car(1, 2, 0, 0);
-            x.run(6);
+            RoadDesk x = Roads.slowOne(top);
             due.at("ON behind it", x, 1, 0, 0, 4, 0);
             due.is("SPEED AHEAD", x.of(0, 4), 1);
             x.run(1);
@@ -94,7 +77,7 @@ public final class OrderTest {
         for (int e = 0; e < 16; e++) {
             int from = e % 8;
             int to = e < 8 ? (from + 1) % 8 : (from + 3) % 8;
-            due.yes("edge " + e, x.edge(e, 8 * from + to, 20 + e, shape(1 + e % 2, 12, e % 4)));
+            due.yes("edge " + e, x.edge(e, 8 * from + to, 20 + e, Roads.shape(1 + e % 2, 12, e % 4)));
         }
         for (int c = 0; c < 32; c++) {
             due.yes("car " + c, x.car(c, c % 4, c % 16, (5 * c + 7) % 16));

@@ -1,8 +1,6 @@
 /** Promise 10, run, and what a STEP does: LIGHTS, LANES, CROSSINGS, MOVES, ENTRIES. */
 public final class StepTest {
     private static final Due due = new Due("StepTest");
-    /** A junction whose only phase has no edge: nothing is GREEN there. */
-    private static final int LONG = 9999;
 
     public static void main(String[] args) {
         runTakesItsNumbers();
@@ -34,27 +32,6 @@ public final class StepTest {
         due.end();
     }
 
-    private static int shape(int lanes, int limit, int rank) {
-        return lanes + 4 * limit + 64 * rank;
-    }
-
-    private static RoadDesk line(int lanes, int first, int second, int third) {
-        RoadDesk x = new RoadDesk();
-        x.edge(0, 1, first, shape(lanes, 12, 0));
-        x.edge(1, 10, second, shape(lanes, 12, 0));
-        x.edge(2, 19, third, shape(lanes, 12, 0));
-        return x;
-    }
-
-    /** Edges 0 and 1 of these lengths and ranks to junction 2, edge 2 on from there. */
-    private static RoadDesk merge(int first, int rank, int second, int otherRank) {
-        RoadDesk x = new RoadDesk();
-        x.edge(0, 2, first, shape(1, 12, rank));
-        x.edge(1, 10, second, shape(1, 12, otherRank));
-        x.edge(2, 19, 50, shape(1, 12, 0));
-        return x;
-    }
-
     private static void runTakesItsNumbers() {
         RoadDesk x = new RoadDesk();
         int[] bad = {-1, 21, Integer.MIN_VALUE, Integer.MAX_VALUE};
@@ -70,7 +47,7 @@ public final class StepTest {
     }
 
     private static void lightsByTimes() {
-        RoadDesk x = line(1, 50, 50, 50);
+        RoadDesk x = Roads.line(1, 50, 50, 50);
         x.phase(1, 0, 1, 503);
         x.phase(1, 1, 0, 202);
         int[] phase = {0, 0, 1, 1, 0, 0, 0, 1};
@@ -89,7 +66,7 @@ public final class StepTest {
         int[] atOnce = {0, 0, 0, 0, 1, 0, 0};
         int[] late = {0, 1, 0, 0, 0, 0, 0, 1, 0};
         for (int length = 34; length <= 35; length++) {
-            RoadDesk x = line(1, length, 50, 50);
+            RoadDesk x = Roads.line(1, length, 50, 50);
             x.type(0, 1, 1, 4);
             x.phase(1, 0, 1, 502);
             x.phase(1, 1, 0, 101);
@@ -101,7 +78,7 @@ public final class StepTest {
             }
         }
         // one that is GRANTED does not keep it
-        RoadDesk x = line(1, 30, 50, 50);
+        RoadDesk x = Roads.line(1, 30, 50, 50);
         x.phase(1, 0, 1, 902);
         x.phase(1, 1, 0, 101);
         x.run(2);
@@ -115,10 +92,10 @@ public final class StepTest {
 
     private static void lightsOnlyWhereEdgesEnd() {
         // edge 1 is in the phase, but it begins at junction 1, and edge 2 ends there, but isn't in it
-        RoadDesk x = line(1, 30, 30, 30);
-        x.edge(2, 25, 30, shape(1, 12, 0));
+        RoadDesk x = Roads.line(1, 30, 30, 30);
+        x.edge(2, 25, 30, Roads.shape(1, 12, 0));
         x.phase(1, 0, 2, 902);
-        x.phase(1, 1, 0, LONG);
+        x.phase(1, 1, 0, Roads.LONG);
         x.car(0, 0, 1, 1);
         x.car(1, 0, 2, 2);
         x.run(2);
@@ -128,8 +105,8 @@ public final class StepTest {
     }
 
     private static void movesUpToTheEnd() {
-        RoadDesk x = line(1, 30, 50, 50);
-        x.phase(1, 0, 0, LONG);
+        RoadDesk x = Roads.line(1, 30, 50, 50);
+        x.phase(1, 0, 0, Roads.LONG);
         x.car(0, 0, 0, 1);
         int[] front = {4, 5, 7, 10, 14, 19, 24, 28, 30, 30};
         int[] speed = {0, 1, 2, 3, 4, 5, 5, 4, 2, 0};
@@ -141,7 +118,7 @@ public final class StepTest {
     }
 
     private static void movesBehindAnother() {
-        RoadDesk x = line(1, 200, 50, 50);
+        RoadDesk x = Roads.line(1, 200, 50, 50);
         x.type(1, 1, 1, 8);
         x.car(0, 1, 0, 0);
         x.car(1, 0, 0, 0);
@@ -158,9 +135,9 @@ public final class StepTest {
         x.run(3);
         due.at("free", x, 1, 0, 0, 16, 4);
         // behind a fast one that stops: its braking counts
-        RoadDesk y = line(1, 60, 50, 50);
+        RoadDesk y = Roads.line(1, 60, 50, 50);
         y.type(0, 12, 3, 3);
-        y.phase(1, 0, 0, LONG);
+        y.phase(1, 0, 0, Roads.LONG);
         y.car(0, 0, 0, 1);
         y.car(1, 0, 0, 1);
         int[] lead = {3, 6, 12, 21, 32, 41, 48, 54, 58, 60, 60};
@@ -176,8 +153,8 @@ public final class StepTest {
     private static void movesByLimits() {
         // TOP 12 on an edge with LIMIT 12, then LIMIT 3: the SPEED falls by 2 a step
         RoadDesk x = new RoadDesk();
-        x.edge(0, 1, 60, shape(1, 12, 0));
-        x.edge(1, 10, 200, shape(1, 3, 0));
+        x.edge(0, 1, 60, Roads.shape(1, 12, 0));
+        x.edge(1, 10, 200, Roads.shape(1, 3, 0));
         x.type(2, 12, 3, 3);
         x.car(0, 2, 0, 1);
         x.run(7);
@@ -189,7 +166,7 @@ public final class StepTest {
             due.at("on the slow edge, step " + i, x, 0, 1, 0, front[i], speed[i]);
         }
         RoadDesk y = new RoadDesk();
-        y.edge(0, 1, 60, shape(1, 2, 0));
+        y.edge(0, 1, 60, Roads.shape(1, 2, 0));
         y.type(2, 12, 3, 3);
         y.car(0, 2, 0, 0);
         y.run(3);
@@ -198,8 +175,8 @@ public final class StepTest {
 
     private static void movesSeeAcrossTheJunction() {
         // car 0 stands at the END of edge 1, on FRONT 20; car 1 comes from edge 0 up to FRONT 20 - 4 - 1
-        RoadDesk x = line(1, 20, 20, 50);
-        x.phase(2, 0, 0, LONG);
+        RoadDesk x = Roads.line(1, 20, 20, 50);
+        x.phase(2, 0, 0, Roads.LONG);
         x.car(0, 0, 1, 2);
         x.run(15);
         due.at("stands", x, 0, 1, 0, 20, 0);
@@ -210,28 +187,16 @@ public final class StepTest {
         x.run(20);
         due.at("and behind that one", x, 2, 1, 0, 10, 0);
         // alone it goes up to the END of the edge that it is granted
-        RoadDesk y = line(1, 20, 20, 50);
-        y.phase(2, 0, 0, LONG);
+        RoadDesk y = Roads.line(1, 20, 20, 50);
+        y.phase(2, 0, 0, Roads.LONG);
         y.car(1, 0, 0, 2);
         y.run(20);
         due.at("at the END", y, 1, 1, 0, 20, 0);
         due.is("no SPEED fell by more than 2", x.total(5) + y.total(5), 0);
     }
 
-    /** Edge 0 with two lanes, 0 to edge 1 and 1 to edge 2; nothing is GREEN. */
-    private static RoadDesk fork(int length) {
-        RoadDesk x = new RoadDesk();
-        x.edge(0, 1, length, shape(2, 12, 0));
-        x.edge(1, 10, 50, shape(1, 12, 0));
-        x.edge(2, 11, 50, shape(1, 12, 0));
-        x.connect(0, 0, 2);
-        x.connect(0, 1, 4);
-        x.phase(1, 0, 0, LONG);
-        return x;
-    }
-
     private static void lanesForTheNextEdge() {
-        RoadDesk x = fork(100);
+        RoadDesk x = Roads.fork(100);
         x.car(0, 0, 0, 1);
         x.car(1, 0, 0, 2);
         x.run(1);
@@ -249,7 +214,7 @@ public final class StepTest {
         x.run(6);
         due.is("no NEXT edge: stays", x.of(0, 2), 1);
         // beside another at the same FRONT there is no room
-        RoadDesk y = fork(30);
+        RoadDesk y = Roads.fork(30);
         y.car(0, 0, 0, 1);
         y.run(12);
         y.car(1, 0, 0, 2);
@@ -263,20 +228,8 @@ public final class StepTest {
         due.is("room", y.of(0, 2), 1);
     }
 
-    /** Car 0 slow (TOP 1, SIZE 3) on lane 0 of its GOAL, car 1 behind it ON from step 6 on, at FRONT 4. */
-    private static RoadDesk slowOne(int top) {
-        RoadDesk x = new RoadDesk();
-        x.edge(0, 1, 200, shape(2, 12, 0));
-        x.type(1, 1, 1, 3);
-        x.type(2, top, 1, 4);
-        x.car(0, 1, 0, 0);
-        x.car(1, 2, 0, 0);
-        x.run(6);
-        return x;
-    }
-
     private static void lanesPastASlowOne() {
-        RoadDesk x = slowOne(6);
+        RoadDesk x = Roads.slowOne(6);
         due.at("slow one", x, 0, 0, 0, 8, 1);
         due.at("behind it", x, 1, 0, 0, 4, 0);
         x.run(1);
@@ -287,8 +240,8 @@ public final class StepTest {
         due.is("the slow one stays", x.of(0, 2), 0);
         // the other lane must lead to the NEXT edge, if it isn't on its GOAL
         RoadDesk y = new RoadDesk();
-        y.edge(0, 1, 200, shape(2, 12, 0));
-        y.edge(1, 10, 50, shape(2, 12, 0));
+        y.edge(0, 1, 200, Roads.shape(2, 12, 0));
+        y.edge(1, 10, 50, Roads.shape(2, 12, 0));
         y.connect(0, 1, 0);
         y.type(1, 1, 1, 3);
         y.car(0, 1, 0, 1);
@@ -303,7 +256,7 @@ public final class StepTest {
     private static void lanesOnlyForAGain() {
         // standing on lane 0: FRONT 60, 55 (SIZE 8) and 46; on lane 1 FRONT 60, with SIZE 4 or 3: a GAP of 9 or 10
         for (int size = 4; size >= 3; size--) {
-            RoadDesk x = fork(60);
+            RoadDesk x = Roads.fork(60);
             x.type(1, 6, 1, 8);
             x.type(2, 6, 1, size);
             x.car(0, 2, 0, 2);
@@ -324,7 +277,7 @@ public final class StepTest {
     }
 
     private static void lanesNotTooSoonAgain() {
-        RoadDesk x = fork(200);
+        RoadDesk x = Roads.fork(200);
         x.car(0, 0, 0, 1);
         x.run(3);
         x.aim(0, 2);
@@ -343,9 +296,9 @@ public final class StepTest {
     private static void lanesNotBeforeGrantedOnes() {
         // car 0 is GRANTED lane 1 of edge 1; car 1 there wants to change to lane 1, with none BEHIND it
         RoadDesk x = new RoadDesk();
-        x.edge(0, 1, 60, shape(2, 12, 0));
-        x.edge(1, 10, 200, shape(2, 12, 0));
-        x.edge(2, 19, 50, shape(1, 12, 0));
+        x.edge(0, 1, 60, Roads.shape(2, 12, 0));
+        x.edge(1, 10, 200, Roads.shape(2, 12, 0));
+        x.edge(2, 19, 50, Roads.shape(1, 12, 0));
         x.connect(0, 0, 0);
         x.car(0, 0, 0, 1);
         x.run(9);
@@ -363,7 +316,7 @@ public final class StepTest {
 
     private static void crossingsFromForty() {
         for (int length = 44; length <= 45; length++) {
-            RoadDesk x = line(1, length, 50, 50);
+            RoadDesk x = Roads.line(1, length, 50, 50);
             x.car(0, 0, 0, 1);
             x.run(2);
             due.is("END within 40: " + (length - 4), x.of(0, 5), length == 44 ? 1 : -2);
@@ -374,7 +327,7 @@ public final class StepTest {
     }
 
     private static void crossingsByRank() {
-        RoadDesk x = merge(40, 0, 40, 1);
+        RoadDesk x = Roads.merge(40, 0, 40, 1);
         x.car(0, 0, 0, 2);
         x.car(1, 0, 1, 2);
         x.run(2);
@@ -383,12 +336,12 @@ public final class StepTest {
         due.is("held by one", x.junction(2, 2), 1);
         due.is("from edge 1", x.junction(2, 3), 1);
         due.is("from lane 0", x.junction(2, 4), 0);
-        RoadDesk far = merge(30, 0, 40, 1);
+        RoadDesk far = Roads.merge(30, 0, 40, 1);
         far.car(0, 0, 0, 2);
         far.car(1, 0, 1, 2);
         far.run(2);
         due.is("RANK before nearness", far.of(1, 5), 2);
-        RoadDesk same = merge(40, 3, 40, 3);
+        RoadDesk same = Roads.merge(40, 3, 40, 3);
         same.car(0, 0, 0, 2);
         same.car(1, 0, 1, 2);
         same.run(2);
@@ -397,20 +350,20 @@ public final class StepTest {
     }
 
     private static void crossingsByNearness() {
-        RoadDesk x = merge(40, 0, 39, 0);
+        RoadDesk x = Roads.merge(40, 0, 39, 0);
         x.car(0, 0, 0, 2);
         x.car(1, 0, 1, 2);
         x.run(2);
         due.is("nearer END", x.of(1, 5), 2);
         due.is("farther END", x.of(0, 5), -2);
         // of one edge the lesser lane: side by side at its END, until it is GREEN
-        RoadDesk y = fork(30);
+        RoadDesk y = Roads.fork(30);
         y.car(1, 0, 0, 2);
         y.run(12);
         y.car(0, 0, 0, 1);
         y.run(12);
         due.is("side by side", y.of(0, 3), y.of(1, 3));
-        y.phase(1, 0, 1, LONG);
+        y.phase(1, 0, 1, Roads.LONG);
         y.run(1);
         due.is("the lesser lane is across", y.of(0, 1), 1);
         due.is("the greater lane", y.of(1, 5), -2);
@@ -418,19 +371,19 @@ public final class StepTest {
 
     private static void crossingsHeldUntilClear() {
         // FRONT 19 after step 6, then 25: 5 or 3 on edge 1, where 4 is its SIZE
-        RoadDesk x = line(1, 20, 50, 50);
+        RoadDesk x = Roads.line(1, 20, 50, 50);
         x.car(0, 0, 0, 2);
         x.run(6);
         due.is("HELD before", x.junction(1, 2), 1);
         x.run(1);
         due.at("across", x, 0, 1, 0, 5, 6);
         due.is("not HELD any more", x.junction(1, 2), 0);
-        RoadDesk just = line(1, 21, 50, 50);
+        RoadDesk just = Roads.line(1, 21, 50, 50);
         just.car(0, 0, 0, 2);
         just.run(7);
         due.is("FRONT of its SIZE", just.of(0, 3), 4);
         due.is("not HELD any more", just.junction(1, 2), 0);
-        RoadDesk y = line(1, 22, 50, 50);
+        RoadDesk y = Roads.line(1, 22, 50, 50);
         y.car(0, 0, 0, 2);
         y.run(7);
         due.at("across", y, 0, 1, 0, 3, 6);
@@ -445,8 +398,8 @@ public final class StepTest {
 
     private static void crossingsTogether() {
         // two on one lane to the same edge hold it together; one to another edge waits
-        RoadDesk x = line(1, 40, 200, 50);
-        x.edge(3, 12, 50, shape(1, 12, 0));
+        RoadDesk x = Roads.line(1, 40, 200, 50);
+        x.edge(3, 12, 50, Roads.shape(1, 12, 0));
         x.car(0, 0, 0, 1);
         x.car(1, 0, 0, 1);
         x.car(2, 0, 0, 3);
@@ -470,9 +423,10 @@ public final class StepTest {
 
     private static void crossingsOutrun() {
         // car 0 holds the junction; car 1 behind it asks in step 5, when car 2 on edge 1 has FRONT 5
-        int[][] cases = {{40, 0, 40, 1, -2}, {40, 0, 40, 0, -2}, {40, 0, 41, 0, 2}, {40, 0, 45, 0, 2}, {40, 1, 30, 0, 2}};
+        int[][] cases = {{40, 0, 40, 1, -2}, {40, 0, 40, 0, -2}, {40, 0, 41, 0, 2}, {40, 0, 45, 0, 2},
+            {40, 1, 30, 0, 2}};
         for (int[] k : cases) {
-            RoadDesk x = merge(k[0], k[1], k[2], k[3]);
+            RoadDesk x = Roads.merge(k[0], k[1], k[2], k[3]);
             x.car(0, 0, 0, 2);
             x.car(1, 0, 0, 2);
             x.run(2);
@@ -485,7 +439,7 @@ public final class StepTest {
     }
 
     private static void crossingsOfOneCarAtTwoJunctions() {
-        RoadDesk x = line(1, 22, 20, 50);
+        RoadDesk x = Roads.line(1, 22, 20, 50);
         x.type(1, 6, 1, 8);
         x.car(0, 1, 0, 2);
         x.run(6);
@@ -505,8 +459,8 @@ public final class StepTest {
     }
 
     private static void crossingsKeepTheLane() {
-        RoadDesk x = line(2, 20, 50, 50);
-        x.edge(2, 19, 50, shape(1, 12, 0));
+        RoadDesk x = Roads.line(2, 20, 50, 50);
+        x.edge(2, 19, 50, Roads.shape(1, 12, 0));
         x.connect(0, 0, 0);
         x.car(0, 0, 0, 2);
         x.run(2);
@@ -519,16 +473,16 @@ public final class StepTest {
     }
 
     private static void crossingsNeedGreenAndALane() {
-        RoadDesk x = line(1, 30, 50, 50);
-        x.phase(1, 0, 2, LONG);
+        RoadDesk x = Roads.line(1, 30, 50, 50);
+        x.phase(1, 0, 2, Roads.LONG);
         x.car(0, 0, 0, 1);
         x.run(5);
         due.is("not GREEN", x.of(0, 5), -2);
-        x.phase(1, 0, 1, LONG);
+        x.phase(1, 0, 1, Roads.LONG);
         x.run(1);
         due.is("GREEN", x.of(0, 5), 1);
         // its lane does not lead to its NEXT edge, and there is no room to change
-        RoadDesk y = fork(30);
+        RoadDesk y = Roads.fork(30);
         y.car(0, 0, 0, 1);
         y.run(12);
         y.car(1, 0, 0, 2);
@@ -539,7 +493,7 @@ public final class StepTest {
         due.is("lane 1 leads to edge 2: across", y.of(1, 1), 2);
         due.is("lane 0 does not", y.of(0, 5), -2);
         // on its GOAL none asks
-        RoadDesk z = line(1, 30, 50, 50);
+        RoadDesk z = Roads.line(1, 30, 50, 50);
         z.car(0, 0, 0, 0);
         z.run(7);
         due.is("on its GOAL", z.total(4), 0);
@@ -547,8 +501,8 @@ public final class StepTest {
 
     private static void crossingsNeedRoom() {
         // the lane beyond is full up to its beginning: FRONT 20, 15, 10, 5 of standing cars
-        RoadDesk x = line(1, 30, 20, 50);
-        x.phase(2, 0, 0, LONG);
+        RoadDesk x = Roads.line(1, 30, 20, 50);
+        x.phase(2, 0, 0, Roads.LONG);
         for (int c = 0; c < 5; c++) {
             x.car(c, 0, 1, 2);
             x.run(20);
@@ -561,9 +515,9 @@ public final class StepTest {
         due.at("up to the one beyond", x, 5, 0, 0, 30, 0);
         due.is("GRANTED all the same, as it can stop", x.of(5, 5), 1);
         // SIZE 8 with FRONT 5 beyond stands 4 into edge 0
-        RoadDesk y = line(1, 30, 20, 50);
+        RoadDesk y = Roads.line(1, 30, 20, 50);
         y.type(1, 6, 1, 8);
-        y.phase(2, 0, 0, LONG);
+        y.phase(2, 0, 0, Roads.LONG);
         y.car(0, 0, 1, 2);
         y.run(20);
         y.car(1, 0, 1, 2);
@@ -574,7 +528,7 @@ public final class StepTest {
         y.run(20);
         due.at("from edge 0 onto edge 1", y, 3, 1, 0, 5, 0);
         due.is("HELD on, FRONT below its SIZE", y.junction(1, 2), 1);
-        y.phase(1, 0, 0, LONG);
+        y.phase(1, 0, 0, Roads.LONG);
         y.car(4, 0, 0, 2);
         y.run(20);
         due.at("at the END", y, 4, 0, 0, 30, 0);
@@ -589,7 +543,7 @@ public final class StepTest {
     private static void entriesNeedRoom() {
         // FRONT 4, 5, 7, 10: 10 - 4 - 1 is not below 4 (and 5), but below 6
         for (int size = 4; size <= 6; size++) {
-            RoadDesk x = line(1, 50, 50, 50);
+            RoadDesk x = Roads.line(1, 50, 50, 50);
             x.type(1, 6, 1, size);
             x.car(0, 0, 0, 0);
             x.car(1, 1, 0, 0);
@@ -601,7 +555,7 @@ public final class StepTest {
             x.run(1);
             due.is("FRONT 14", x.of(1, 0), 2);
         }
-        RoadDesk x = line(1, 50, 50, 50);
+        RoadDesk x = Roads.line(1, 50, 50, 50);
         x.weight(0, -1);
         x.car(0, 0, 0, 1);
         x.run(5);
@@ -615,7 +569,7 @@ public final class StepTest {
     }
 
     private static void entriesByLane() {
-        RoadDesk x = line(2, 50, 50, 50);
+        RoadDesk x = Roads.line(2, 50, 50, 50);
         x.car(0, 0, 0, 0);
         x.car(1, 0, 0, 1);
         x.run(2);
@@ -633,7 +587,7 @@ public final class StepTest {
     }
 
     private static void entriesNotBeforeGrantedOnes() {
-        RoadDesk x = line(1, 30, 50, 50);
+        RoadDesk x = Roads.line(1, 30, 50, 50);
         x.car(0, 0, 0, 2);
         x.run(2);
         due.is("GRANTED edge 1", x.of(0, 5), 1);
