@@ -1,6 +1,7 @@
 /** Counts and prints the answers that are not as due, and ends a test. */
 final class Due {
     private final String test;
+    private String sentence = "";
     private int asked = 0;
     private int wrong = 0;
 
@@ -8,11 +9,16 @@ final class Due {
         this.test = test;
     }
 
+    /** The words of the document that the answers from here on are due by. */
+    void says(String words) {
+        sentence = " '" + words + "'";
+    }
+
     void is(String call, long got, long want) {
         asked++;
         if (got != want) {
             wrong++;
-            System.out.println(test + ": " + call + " answered " + got + ", due is " + want);
+            System.out.println(test + sentence + ": " + call + " answered " + got + ", due is " + want);
         }
     }
 
@@ -22,6 +28,10 @@ final class Due {
 
     void no(String call, boolean got) {
         is(call, got ? 1 : 0, 0);
+    }
+
+    void same(String call, boolean got, boolean want) {
+        is(call, got ? 1 : 0, want ? 1 : 0);
     }
 
     /** Lane, FRONT and SPEED of a car that is ON this edge. */

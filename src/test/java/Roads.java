@@ -1,4 +1,4 @@
-/** Roads that the tests drive on; all with LIMIT 12. */
+/** Roads that the tests drive on; all with LIMIT 12 but where a LIMIT is given. */
 final class Roads {
     /** Times of a phase that outlasts every test. */
     static final int LONG = 9999;
@@ -36,8 +36,28 @@ final class Roads {
         x.edge(2, 11, 50, shape(1, 12, 0));
         x.connect(0, 0, 2);
         x.connect(0, 1, 4);
-        x.phase(1, 0, 0, LONG);
+        red(x, 1);
         return x;
+    }
+
+    /** No edge that ends there is GREEN from now on. */
+    static void red(RoadDesk x, int j) {
+        x.phase(j, 0, 0, LONG);
+    }
+
+    /** Every edge that ends there is GREEN from now on. */
+    static void green(RoadDesk x, int j) {
+        x.phase(j, 0, 0, 0);
+    }
+
+    /** More steps than one run does. */
+    static void run(RoadDesk x, int steps) {
+        int left = steps;
+        while (left > 20) {
+            x.run(20);
+            left -= 20;
+        }
+        x.run(left);
     }
 
     /**
