@@ -1,3 +1,5 @@
+import java.util.function.Supplier;
+
 /** A STEP's CROSSINGS. */
 public final class CrossingsTest {
     private static final Due due = new Due("CrossingsTest");
@@ -16,6 +18,7 @@ public final class CrossingsTest {
         asksNotOnItsGoal();
         asksFromForty();
         asksOnce();
+        grantedItStaysSo();
         asksIfItsLaneLeads();
         asksBehindNone();
         byRank();
@@ -77,6 +80,8 @@ public final class CrossingsTest {
             due.at("LENGTH " + k[0], x, 0, 1, 0, 25 - k[0], 6);
             held("LENGTH " + k[0] + ", across", x, 1, k[1], k[1] == 1 ? 0 : -2, k[1] == 1 ? 0 : -2);
             grant("LENGTH " + k[0] + ", across", x, 0, -2);
+            held("where it came from", x, 0, 0, -2, -2);
+            held("where it goes to", x, 2, 0, -2, -2);
             x.run(1);
             held("LENGTH " + k[0] + ", later", x, 1, 0, -2, -2);
         }
@@ -303,15 +308,36 @@ public final class CrossingsTest {
             due.is("granted, step " + step, x.total(4), 1);
             due.is("HELD by one, step " + step, x.junction(1, 2), 1);
         }
-        // its NEXT edge may change; what it is GRANTED does not
-        RoadDesk y = cross(40, 0, 40, 0);
-        y.edge(4, 28, 50, Roads.shape(1, 12, 0));
-        y.car(0, 0, 0, 4);
-        y.run(2);
-        grant("by edge 2", y, 0, 2);
-        y.weight(2, 1000);
-        y.run(9);
-        due.is("on edge 2", y.of(0, 1), 2);
+    }
+
+    private static void grantedItStaysSo() {
+        due.says("GRANTED its NEXT edge");
+        // edges 2 and 5 both lead to its GOAL, edge 4; its NEXT edge changes, what it is GRANTED does not
+        for (int k = 0; k < 4; k++) {
+            RoadDesk y = cross(40, 0, 40, 0);
+            y.edge(4, 28, 50, Roads.shape(1, 12, 0));
+            y.edge(5, 19, 50, Roads.shape(1, 12, 0));
+            y.car(0, 0, 0, 4);
+            y.run(2);
+            grant("by edge 2", y, 0, 2);
+            if (k == 0) {
+                y.weight(2, 1000);
+            } else if (k == 1) {
+                y.weight(2, -1);
+            } else if (k == 2) {
+                y.connect(0, 0, 32);
+            } else {
+                y.connect(0, 0, 0);
+            }
+            due.is("NEXT, case " + k, y.of(0, 7), k == 3 ? -2 : 5);
+            for (int step = 3; step <= 9; step++) {
+                y.run(1);
+                grant("case " + k + " step " + step, y, 0, 2);
+            }
+            y.run(1);
+            due.at("case " + k, y, 0, 2, 0, 3, 6);
+            due.is("GRANTED once, case " + k, y.total(4), 1);
+        }
     }
 
     private static void asksIfItsLaneLeads() {
@@ -367,32 +393,52 @@ public final class CrossingsTest {
         due.is(when + ": lane of car " + c, x.of(c, 2), lane);
     }
 
-    /** Cars 0 and 1 on edges 0 and 1 ask in the same step: which of them is GRANTED edge 2. */
-    private static void first(String when, RoadDesk x, int winner) {
-        x.car(0, 0, 0, 2);
-        x.car(1, 0, 1, 2);
-        x.run(2);
-        grant(when, x, winner, 2);
-        grant(when, x, 1 - winner, -2);
-        held(when, x, 2, 1, winner, 0);
+    /** Cars on edges 0 and 1 ask in the same step: that on which of them is GRANTED edge 2, whatever its number. */
+    private static void first(String when, Supplier<RoadDesk> made, int winner) {
+        for (int shift = 0; shift < 2; shift++) {
+            RoadDesk x = made.get();
+            x.car(shift, 0, 0, 2);
+            x.car(1 - shift, 0, 1, 2);
+            x.run(2);
+            grant(when, x, winner ^ shift, 2);
+            grant(when, x, 1 - winner ^ shift, -2);
+            held(when, x, 2, 1, winner, 0);
+        }
+    }
+
+    private static void first(String when, int length, int rank, int otherLength, int otherRank, int winner) {
+        first(when, () -> Roads.merge(length, rank, otherLength, otherRank), winner);
     }
 
     private static void byRank() {
         due.says("One stands before another by the greater RANK of its edge");
         for (int rank = 0; rank < 3; rank++) {
-            first("the second edge", Roads.merge(40, rank, 40, rank + 1), 1);
-            first("the first edge", Roads.merge(40, rank + 1, 40, rank), 0);
-            first("though its END is farther", Roads.merge(30, rank, 40, rank + 1), 1);
-            first("though its END is farther", Roads.merge(40, rank + 1, 30, rank), 0);
+            first("the second edge", 40, rank, 40, rank + 1, 1);
+            first("the first edge", 40, rank + 1, 40, rank, 0);
+            first("though its END is farther", 30, rank, 40, rank + 1, 1);
+            first("though its END is farther", 40, rank + 1, 30, rank, 0);
         }
-        first("by 3", Roads.merge(20, 0, 44, 3), 1);
+        first("by 3", 20, 0, 44, 3, 1);
+        // neither LANES nor LIMIT make a RANK
+        for (int winner = 0; winner < 2; winner++) {
+            for (int lanes = 1; lanes <= 2; lanes++) {
+                int nearer = winner;
+                int many = lanes;
+                first("of one RANK", () -> {
+                    RoadDesk x = Roads.merge(40, 0, 40, 0);
+                    x.edge(1 - nearer, 8 - 8 * nearer + 2, 40, Roads.shape(many, 12, 2));
+                    x.edge(nearer, 8 * nearer + 2, 39, Roads.shape(3 - many, 6, 2));
+                    return x;
+                }, winner);
+            }
+        }
     }
 
     private static void byNearerEnd() {
         due.says("then the nearer END");
-        first("by 1, the second", Roads.merge(40, 0, 39, 0), 1);
-        first("by 1, the first", Roads.merge(39, 0, 40, 0), 0);
-        first("by 20", Roads.merge(44, 2, 24, 2), 1);
+        first("by 1, the second", 40, 0, 39, 0, 1);
+        first("by 1, the first", 39, 0, 40, 0, 0);
+        first("by 20", 44, 2, 24, 2, 1);
         // the nearer END, not the greater FRONT
         RoadDesk x = Roads.merge(60, 0, 30, 0);
         Roads.red(x, 2);
@@ -411,8 +457,8 @@ public final class CrossingsTest {
 
     private static void byLesserEdge() {
         due.says("the lesser edge");
-        first("edge 0", Roads.merge(40, 0, 40, 0), 0);
-        first("edge 0", Roads.merge(40, 3, 40, 3), 0);
+        first("edge 0", 40, 0, 40, 0, 0);
+        first("edge 0", 40, 3, 40, 3, 0);
         // lane 1 of the lesser edge before lane 0 of the greater; whatever the cars' numbers
         for (int c = 0; c < 2; c++) {
             RoadDesk x = Roads.merge(30, 0, 30, 0);
@@ -537,27 +583,29 @@ public final class CrossingsTest {
 
     private static void heldToAnotherEdge() {
         due.says("by some that came from its lane and were granted that same edge and lane");
-        // two to edge 2, then one to edge 3, all from edge 0: the third not before both are clear
-        RoadDesk x = cross(40, 0, 40, 0);
-        x.car(0, 0, 0, 2);
-        x.car(1, 0, 0, 2);
-        x.car(2, 0, 0, 3);
-        x.run(5);
-        grant("first", x, 0, 2);
-        grant("second", x, 1, 2);
-        held("together", x, 2, 2, 0, 0);
-        x.run(4);
-        due.is("third is ON", x.of(2, 0), 2);
-        grant("third", x, 2, -2);
-        x.run(4);
-        due.at("second is across", x, 1, 2, 0, 3, 6);
-        held("the second alone", x, 2, 1, 0, 0);
-        x.run(1);
-        held("none", x, 2, 0, -2, -2);
-        grant("third", x, 2, -2);
-        x.run(1);
-        grant("third", x, 2, 3);
-        held("the third", x, 2, 1, 0, 0);
+        // two to edge 2, then one to edge 3, or the other way round, all from edge 0: the third not before both are clear
+        for (int edge = 2; edge <= 3; edge++) {
+            RoadDesk x = cross(40, 0, 40, 0);
+            x.car(0, 0, 0, edge);
+            x.car(1, 0, 0, edge);
+            x.car(2, 0, 0, 5 - edge);
+            x.run(5);
+            grant("first", x, 0, edge);
+            grant("second", x, 1, edge);
+            held("together", x, 2, 2, 0, 0);
+            x.run(4);
+            due.is("third is ON", x.of(2, 0), 2);
+            grant("third", x, 2, -2);
+            x.run(4);
+            due.at("second is across", x, 1, edge, 0, 3, 6);
+            held("the second alone", x, 2, 1, 0, 0);
+            x.run(1);
+            held("none", x, 2, 0, -2, -2);
+            grant("third", x, 2, -2);
+            x.run(1);
+            grant("third", x, 2, 5 - edge);
+            held("the third", x, 2, 1, 0, 0);
+        }
     }
 
     private static void heldByOneThatHasChangedLanes() {
@@ -581,40 +629,49 @@ public final class CrossingsTest {
         held("both", x, 1, 2, 0, 0);
     }
 
+    /**
+     * Cars a and b on one edge, c on another, both to junction 2; a holds it, and b and c ask in the same step, both with
+     * FRONT 4.
+     */
+    private static void together(String when, RoadDesk x, int[] cars, int[] edges, int goal, int granted) {
+        x.car(cars[0], 0, edges[0], 2);
+        x.car(cars[1], 0, edges[0], 2);
+        x.run(3);
+        x.car(cars[2], 0, edges[1], goal);
+        x.run(1);
+        due.at(when, x, cars[1], edges[0], 0, 4, 0);
+        due.at(when, x, cars[2], edges[1], 0, 4, 0);
+        x.run(1);
+        grant(when, x, cars[0], 2);
+        grant(when, x, cars[1], granted);
+        grant(when, x, cars[2], -2);
+    }
+
     private static void noneThatAsksStandsBefore() {
         due.says("and no car from another lane that ASKS stands before it");
-        // car 0 holds the junction; car 1 behind it asks in step 5, when it and car 2 on edge 1 both have FRONT 4
-        int[][] cases = {{40, 0, 40, 1, -2}, {40, 0, 40, 0, 2}, {40, 0, 39, 0, -2}, {40, 0, 41, 0, 2},
-            {40, 1, 30, 0, 2}, {40, 1, 30, 1, -2}, {30, 0, 44, 1, -2}};
+        int[][] cases = {{40, 0, 40, 1, -2}, {40, 0, 39, 0, -2}, {40, 0, 41, 0, 2}, {40, 1, 30, 0, 2},
+            {40, 1, 30, 1, -2}, {30, 0, 44, 1, -2}};
+        int[][] orders = {{0, 1, 2}, {1, 2, 0}, {2, 0, 1}};
         for (int[] k : cases) {
-            RoadDesk x = Roads.merge(k[0], k[1], k[2], k[3]);
-            x.car(0, 0, 0, 2);
-            x.car(1, 0, 0, 2);
-            x.run(3);
-            x.car(2, 0, 1, 2);
-            x.run(1);
-            due.at("car 1", x, 1, 0, 0, 4, 0);
-            due.at("car 2", x, 2, 1, 0, 4, 0);
-            x.run(1);
-            grant("first", x, 0, 2);
-            String when = k[0] + " " + k[1] + " and " + k[2] + " " + k[3];
-            grant(when, x, 1, k[4]);
-            grant(when, x, 2, -2);
-            // what it is to go to does not matter
-            RoadDesk y = cross(k[0], k[1], k[2], k[3]);
-            y.car(0, 0, 0, 2);
-            y.car(1, 0, 0, 2);
-            y.run(3);
-            y.car(2, 0, 1, 3);
-            y.run(2);
-            grant(when + ", to edge 3", y, 1, k[4]);
+            for (int[] cars : orders) {
+                // what the one on the other edge is to go to does not matter
+                for (int goal = 2; goal <= 3; goal++) {
+                    String when = k[0] + " " + k[1] + " and " + k[2] + " " + k[3] + ", cars from " + cars[0];
+                    together(when, cross(k[0], k[1], k[2], k[3]), cars, new int[] {0, 1}, goal, k[4]);
+                    together(when, cross(k[2], k[3], k[0], k[1]), cars, new int[] {1, 0}, goal, k[4]);
+                }
+            }
+        }
+        for (int[] cars : orders) {
+            together("the lesser edge", cross(40, 0, 40, 0), cars, new int[] {0, 1}, 2, 2);
+            together("the greater edge", cross(40, 0, 40, 0), cars, new int[] {1, 0}, 2, -2);
         }
     }
 
     private static void onesThatDoNotAskDoNotMatter() {
         due.says("no car from another lane that ASKS");
-        // car 2 on edge 1, of a greater RANK: on its GOAL, not GREEN, too far off, without a NEXT edge, behind another
-        for (int k = 0; k < 6; k++) {
+        String[] cases = {"on its GOAL", "not GREEN", "too far off", "without a NEXT edge", "another RANK"};
+        for (int k = 0; k < cases.length; k++) {
             RoadDesk x = cross(40, 0, k == 2 ? 60 : 40, 1);
             if (k == 1) {
                 x.phase(2, 0, 1, Roads.LONG);
@@ -627,12 +684,10 @@ public final class CrossingsTest {
             if (k == 3) {
                 x.weight(3, -1);
             }
-            if (k == 4) {
-                x.connect(1, 0, 4);
-            }
             due.at("car 1", x, 1, 0, 0, 4, 0);
+            due.at("car 2", x, 2, 1, 0, 4, 0);
             x.run(1);
-            grant("case " + k, x, 1, k == 5 ? -2 : 2);
+            grant(cases[k], x, 1, k == 4 ? -2 : 2);
         }
     }
 

@@ -189,6 +189,22 @@ public final class GapsTest {
             due.at("behind " + standing, x, 4, 1, 0, front[standing], 0);
             due.is("no SPEED fell by more than 2", x.total(5), 0);
         }
+        // the edge granted has a lesser number than the own
+        RoadDesk w = new RoadDesk();
+        w.edge(2, 1, 20, Roads.shape(1, 12, 0));
+        w.edge(1, 10, 20, Roads.shape(1, 12, 0));
+        w.edge(0, 19, 50, Roads.shape(1, 12, 0));
+        Roads.red(w, 2);
+        w.car(0, 0, 1, 0);
+        Roads.run(w, 20);
+        w.car(1, 0, 2, 0);
+        w.run(1);
+        int[] fronts = {5, 7, 10, 14, 19, 5, 10, 13, 15, 15, 15};
+        for (int i = 0; i < fronts.length; i++) {
+            w.run(1);
+            due.is("edge, step " + (i + 2), w.of(1, 1), i < 5 ? 2 : 1);
+            due.is("FRONT, step " + (i + 2), w.of(1, 3), fronts[i]);
+        }
         // the other lane of the edge granted is not looked at
         RoadDesk y = Roads.line(2, 20, 20, 50);
         Roads.red(y, 2);

@@ -6,6 +6,7 @@ public final class LanesTest {
     public static void main(String[] args) {
         edgesWithTwo();
         greatestFrontFirst();
+        greatestFrontOfBothLanesFirst();
         laterOnesSeeTheChange();
         ofOneFront();
         notGranted();
@@ -42,6 +43,17 @@ public final class LanesTest {
         Roads.run(x, 40);
         lane("behind a slow one", x, 1, 0);
         due.is("changes", x.total(3), 0);
+        // the same with edges before and behind it that have two
+        for (int e = 0; e < 3; e++) {
+            RoadDesk w = Roads.line(2, 200, 200, 200);
+            w.edge(e, 9 * e + 1, 200, Roads.shape(1, 12, 0));
+            w.type(1, 1, 1, 3);
+            w.car(0, 1, e, e);
+            w.car(1, 0, e, e);
+            w.run(20);
+            due.at("one lane alone", w, 1, e, 0, 22 - 3 - 1 - 1, 1);
+            due.is("changes", w.total(3), 0);
+        }
         // on each edge that has two
         for (int e = 0; e < 16; e++) {
             RoadDesk y = new RoadDesk();
@@ -81,6 +93,29 @@ public final class LanesTest {
             y.run(1);
             lane("first", y, first, 0);
             lane("second", y, second, 1);
+        }
+    }
+
+    private static void greatestFrontOfBothLanesFirst() {
+        due.says("from the greatest FRONT on");
+        // standing: one on lane 1 at FRONT 60 wants to lane 0, where the other is at 55, on its GOAL, with none AHEAD;
+        // it has one AHEAD then, and lane 1 is free
+        for (int first = 0; first < 2; first++) {
+            int second = 1 - first;
+            RoadDesk x = Roads.fork(60);
+            x.car(first, 0, 0, 2);
+            x.car(2, 0, 0, 1);
+            x.car(second, 0, 0, 1);
+            Roads.run(x, 40);
+            due.at("on lane 1", x, first, 0, 1, 60, 0);
+            due.at("on lane 0", x, second, 0, 0, 55, 0);
+            x.aim(second, 0);
+            x.remove(2);
+            x.aim(first, 1);
+            x.run(1);
+            lane("first", x, first, 0);
+            lane("second", x, second, 1);
+            due.is("changes", x.total(3), 2);
         }
     }
 
@@ -328,7 +363,8 @@ public final class LanesTest {
             due.is("GRANTED", x.of(1, 5), granted == 1 ? 2 : -2);
             x.aim(0, 2);
             x.run(1);
-            lane("GRANTED " + granted, x, 0, 1 - granted);
+            due.is("GRANTED " + granted + ": changes", x.total(3), 1 - granted);
+            due.at("GRANTED " + granted, x, 0, 0, 1 - granted, 60, 0);
         }
     }
 
@@ -538,6 +574,21 @@ public final class LanesTest {
             x.car(1, 0, 0, 1);
             x.run(7);
             lane("MASK " + mask, x, 1, (mask & LANE_0) != 0 ? 1 : 0);
+        }
+        // the edge that it is to go to has a lesser number than its own, or a greater one
+        for (int goal = 1; goal <= 9; goal += 8) {
+            for (int leads = 0; leads < 2; leads++) {
+                RoadDesk z = new RoadDesk();
+                z.edge(5, 1, 200, Roads.shape(2, 12, 0));
+                z.edge(goal, 10, 50, Roads.shape(1, 12, 0));
+                z.connect(5, 1, leads << goal);
+                Roads.red(z, 1);
+                z.type(1, 1, 1, 3);
+                z.car(0, 1, 5, goal);
+                z.car(1, 0, 5, goal);
+                z.run(7);
+                lane("from edge 5 to " + goal, z, 1, leads);
+            }
         }
         // without a NEXT edge it stays
         RoadDesk y = Roads.fork(200);

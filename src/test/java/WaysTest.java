@@ -1,3 +1,5 @@
+import java.util.Random;
+
 /** 'Terms', WAYS: COST, DISTANCE and NEXT edge. */
 public final class WaysTest {
     private static final Due due = new Due("WaysTest");
@@ -16,6 +18,7 @@ public final class WaysTest {
         nextOfCars();
         waysChangeAtOnce();
         longWays();
+        drawnRoads();
         due.end();
     }
 
@@ -128,6 +131,28 @@ public final class WaysTest {
         way("26 by edge 4", x, 0, 3, 25, 1);
         x.weight(1, 2);
         way("27 by edge 1", x, 0, 3, 26, 4);
+        // the dear way is found first, the cheap one later: by edge 0, or by edge 2, from edge 1 to edge 3
+        RoadDesk y = new RoadDesk();
+        y.edge(0, 10, 50, SHAPE);
+        y.edge(1, 1, 50, SHAPE);
+        y.edge(2, 10, 50, SHAPE);
+        y.edge(3, 19, 50, SHAPE);
+        y.weight(0, 100);
+        way("by edge 2", y, 1, 3, 10, 2);
+        y.weight(0, 0);
+        y.weight(2, 100);
+        way("by edge 0", y, 1, 3, 10, 0);
+        // from junctions 1, 2 and 3 there is a dear edge (0, 1, 2) to junction 4 each; the cheap way is the long one
+        RoadDesk z = new RoadDesk();
+        for (int e = 0; e < 3; e++) {
+            z.edge(e, 8 * (1 + e) + 4, 200, Roads.shape(1, 1, 0));
+            z.edge(3 + e, 8 * e + e + 1, 50, SHAPE);
+        }
+        z.edge(6, 28, 50, SHAPE);
+        z.edge(7, 37, 50, SHAPE);
+        way("three edges on", z, 5, 7, 10, 6);
+        way("four edges on", z, 4, 7, 15, 5);
+        way("five edges on", z, 3, 7, 20, 4);
         // the nearer one of two costs more in the end
         x.weight(1, 0);
         x.weight(4, 0);
@@ -271,5 +296,37 @@ public final class WaysTest {
         }
         way("over all sixteen", y, 0, 15, sum, 1);
         way("not back", y, 15, 0, -2, -2);
+    }
+
+    /** All sixteen edges, drawn with fixed seeds: what is least is worked out by the cheapest first steps, as in Model. */
+    private static void drawnRoads() {
+        due.says("the least sum of the COST of an OPEN edge that a lane of it leads to and the DISTANCE from there");
+        for (int seed = 0; seed < 200; seed++) {
+            Random random = new Random(seed);
+            int junctions = 3 + seed % 6;
+            RoadDesk x = new RoadDesk();
+            Model m = new Model();
+            for (int e = 0; e < 16; e++) {
+                int from = random.nextInt(junctions);
+                int ends = 8 * from + (from + 1 + random.nextInt(junctions - 1)) % junctions;
+                int length = 20 + random.nextInt(60);
+                int shape = Roads.shape(1 + random.nextInt(2), 1 + random.nextInt(12), 0);
+                int mask = random.nextInt(65536) | random.nextInt(65536);
+                int weight = random.nextInt(10) == 0 ? -1 : random.nextInt(40);
+                x.edge(e, ends, length, shape);
+                m.edge(e, ends, length, shape);
+                x.connect(e, 0, mask);
+                m.connect(e, 0, mask);
+                x.weight(e, weight);
+                m.weight(e, weight);
+            }
+            for (int e = 0; e < 16; e++) {
+                for (int goal = 0; goal < 16; goal++) {
+                    int what = (e + goal + seed) % 2;
+                    String when = "seed " + seed + " from " + e + " to " + goal + ", what " + what;
+                    due.is(when, x.way(e, goal, what), m.way(e, goal, what));
+                }
+            }
+        }
     }
 }
